@@ -27,7 +27,6 @@ public final class TextSwitchCompiler {
     private static final int NONE = -1;
 
     private final Text buffer = new Text(LONGEST_TEXT);
-    private final Text probe = new Text(LONGEST_KEY);
     private final Keys keys = new Keys();
     private final Keys savedKeys = new Keys();
     private boolean somethingSaved = false;
@@ -228,18 +227,16 @@ public final class TextSwitchCompiler {
     public int cost(int strategy) throws IllegalArgumentException, IllegalStateException {
         prepare();
         requireRunnable(strategy);
-        return costOf(strategy);
+        runner.measure(strategy);
+        return runner.cost;
     }
 
     /** Returns the greatest number of characters that a strategy examines with a key. */
     public int worst(int strategy) throws IllegalArgumentException, IllegalStateException {
         prepare();
         requireRunnable(strategy);
-        int greatest = 0;
-        for (int key = 0; key < keys.count; key++) {
-            greatest = Math.max(greatest, stepsWith(key, strategy));
-        }
-        return greatest;
+        runner.measure(strategy);
+        return runner.worst;
     }
 
     /** Returns the bits of the cost of a strategy divided by the sum of all weights. */
@@ -250,19 +247,21 @@ public final class TextSwitchCompiler {
         if (weights <= 0) {
             throw new ArithmeticException("no keys");
         }
-        return doubleBitsOf((double) costOf(strategy) / (double) weights);
+        runner.measure(strategy);
+        return doubleBitsOf((double) runner.cost / (double) weights);
     }
 
     /** Returns the strategy with the least cost among those that can be run; of several, the lowest one. */
     public int best() {
         prepare();
+        runner.measure(LINEAR);
         int best = LINEAR;
-        int least = costOf(LINEAR);
+        int least = runner.cost;
         for (int strategy = BINARY; strategy < STRATEGIES; strategy++) {
             if (canRun(strategy)) {
-                int cost = costOf(strategy);
-                if (cost < least) {
-                    least = cost;
+                runner.measure(strategy);
+                if (runner.cost < least) {
+                    least = runner.cost;
                     best = strategy;
                 }
             }
@@ -428,21 +427,6 @@ public final class TextSwitchCompiler {
         }
     }
 
-    private int stepsWith(int key, int strategy) {
-        probe.empty();
-        keys.writeKey(key, probe);
-        runner.run(probe, strategy);
-        return runner.steps;
-    }
-
-    private int costOf(int strategy) {
-        int total = 0;
-        for (int key = 0; key < keys.count; key++) {
-            total += at(keys.weights, key) * stepsWith(key, strategy);
-        }
-        return total;
-    }
-
     private static int at(int[] row, int index) {
         return index >= 0 && index < row.length ? row[index] : 0;
     }
@@ -577,7 +561,7 @@ public final class TextSwitchCompiler {
         }
 
         int lengthOf(int key) {
-            return at(lengths, key);
+            return key >= 0 && key < lengths.length ? lengths[key] : 0;
         }
 
         /** Returns NONE behind the end of the key, which is less than all characters. */
@@ -1125,7 +1109,7 @@ public final class TextSwitchCompiler {
         int hashOf(Text text, int seed) {
             int h = seed;
             for (int p = 0; p < LONGEST_KEY; p++) {
-                if (contains(positions, p)) {
+                if ((positions >>> p & 1) != 0) {
                     h = 31 * h + (p < text.length ? text.signAt(p) : 0);
                 }
             }
@@ -1199,7 +1183,7 @@ public final class TextSwitchCompiler {
             for (int key = 0; key < keys.count; key++) {
                 probe.empty();
                 keys.writeKey(key, probe);
-                int bucket = bucketOf(probe);
+                int bucket = bucketFor(selection.hashOf(probe, seed));
                 put(buckets, key, bucket);
                 put(bucketSizes, bucket, at(bucketSizes, bucket) + 1);
                 put(hashes, key, selection.hashOf(probe, seed + 1));
@@ -1246,13 +1230,13 @@ public final class TextSwitchCompiler {
             return slotCount <= 0 ? 0 : Math.floorMod(hash + d * stride, slotCount);
         }
 
-        private int bucketOf(Text text) {
-            return bucketCount <= 0 ? 0 : Math.floorMod(selection.hashOf(text, seed), bucketCount);
+        private int bucketFor(int hash) {
+            return bucketCount <= 0 ? 0 : Math.floorMod(hash, bucketCount);
         }
 
         /** Returns the key that took the slot of a text, or NONE. */
         int ownerFor(Text text) {
-            int d = at(displacements, bucketOf(text));
+            int d = at(displacements, bucketFor(selection.hashOf(text, seed)));
             int hash = selection.hashOf(text, seed + 1);
             int stride = selection.hashOf(text, seed + 2) | 1;
             return at(owners, slotFor(hash, stride, d));
@@ -1265,8 +1249,11 @@ public final class TextSwitchCompiler {
         final Order order;
         final Forest forest;
         final Table table;
+        final Text probe = new Text(LONGEST_KEY);
         int found = NONE;
         int steps = 0;
+        int cost = 0;
+        int worst = 0;
 
         Runner(Keys keys, Order order, Forest forest, Table table) {
             this.keys = keys;
@@ -1291,6 +1278,19 @@ public final class TextSwitchCompiler {
                 default:
                     runTable(text);
                     break;
+            }
+        }
+
+        /** Runs a strategy with each key. */
+        void measure(int strategy) {
+            cost = 0;
+            worst = 0;
+            for (int key = 0; key < keys.count; key++) {
+                probe.empty();
+                keys.writeKey(key, probe);
+                run(probe, strategy);
+                cost += at(keys.weights, key) * steps;
+                worst = Math.max(worst, steps);
             }
         }
 
