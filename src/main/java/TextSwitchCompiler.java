@@ -248,7 +248,7 @@ public final class TextSwitchCompiler {
             throw new ArithmeticException("no keys");
         }
         runner.measure(strategy);
-        return doubleBitsOf((double) runner.cost / (double) weights);
+        return meanBitsOf((double) runner.cost / (double) weights);
     }
 
     /** Returns the strategy with the least cost among those that can be run; of several, the lowest one. */
@@ -344,7 +344,7 @@ public final class TextSwitchCompiler {
         prepare();
         requireTable();
         int slots = hashTable.slotCount;
-        return slots <= 0 ? 0 : floatBitsOf((float) keys.count / (float) slots);
+        return slots <= 0 ? 0 : densityBitsOf((float) keys.count / (float) slots);
     }
 
     /** Returns a character of the listing of a strategy, or its length if index is -1. */
@@ -463,35 +463,28 @@ public final class TextSwitchCompiler {
         return sign >= '0' && sign <= '9';
     }
 
-    /** The library's doubleToLongBits is none of this program's, so the parts are put together here. */
-    private static long doubleBitsOf(double value) {
-        double fraction = value;
-        int exponent = 0;
-        for (int i = 0; i < 64 && fraction >= 2.0; i++) {
+    /** The library's doubleToLongBits is none of this program's. No mean is below 1: keys are read whole. */
+    private static long meanBitsOf(double mean) {
+        double fraction = mean;
+        long exponent = 1023L;
+        for (int i = 0; i < 32 && fraction >= 2.0; i++) {
             fraction = fraction / 2.0;
             exponent++;
         }
-        for (int i = 0; i < 64 && fraction < 1.0; i++) {
-            fraction = fraction * 2.0;
-            exponent--;
-        }
         long one = 1L << 52;
-        return ((long) (exponent + 1023) << 52) + ((long) (fraction * (double) one) - one);
+        return (exponent << 52) + ((long) (fraction * (double) one) - one);
     }
 
-    private static int floatBitsOf(float value) {
-        float fraction = value;
-        int exponent = 0;
-        for (int i = 0; i < 64 && fraction >= 2.0f; i++) {
-            fraction = fraction / 2.0f;
-            exponent++;
-        }
-        for (int i = 0; i < 64 && fraction < 1.0f; i++) {
+    /** The library's floatToIntBits is none of this program's. No density is above 1. */
+    private static int densityBitsOf(float density) {
+        float fraction = density;
+        int exponent = 127;
+        for (int i = 0; i < 32 && fraction < 1.0f; i++) {
             fraction = fraction * 2.0f;
             exponent--;
         }
         int one = 1 << 23;
-        return (exponent + 127 << 23) + ((int) (fraction * (float) one) - one);
+        return (exponent << 23) + ((int) (fraction * (float) one) - one);
     }
 
     /** A row of characters with an end that moves. */

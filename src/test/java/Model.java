@@ -51,6 +51,11 @@ final class Model {
         return keys.size();
     }
 
+    /** The length of a listing, or -1 if there is none. */
+    int listingLength(int strategy) {
+        return strategy == 3 && !hasTable() ? -1 : listing(strategy).length();
+    }
+
     boolean hasTable() {
         return table() != null;
     }
@@ -584,7 +589,8 @@ final class Model {
     }
 
     private Table table() {
-        return keptTables.computeIfAbsent(load + " " + texts(), state -> Optional.ofNullable(firstTable())).orElse(null);
+        return keptTables.computeIfAbsent(load + " " + texts(), state -> Optional.ofNullable(firstTable()))
+            .orElse(null);
     }
 
     private Table firstTable() {

@@ -11,9 +11,12 @@ public final class ModelTest {
         "densityBits", "listing", "save", "restore"};
     private static final String[] ALPHABETS = {"ab", "a0z", "abc", "abcdefghijklmnopqrstuvwxyz0123456789"};
 
-    /** Keys for which all seeds fail, with load 100. */
-    private static final String[] WITHOUT_TABLE = {"2,44,z,p,20,u,2r,8,k1", "a,dx,f,qv,qg,8a,hv,5x,g,s8",
-        "h7,y,ia,i7,ai,gk,gu,cl,3", "zo,g7,pq,ln,n0,a0,zg,i,r,sd", "e,fk,6,yb,cy,ft,2s,h6,x"};
+    /** Keys for which, with load 100, all seeds fail or only late ones do not, and keys for deep trees. */
+    private static final String[] STARTS = {"2,44,z,p,20,u,2r,8,k1", "a,dx,f,qv,qg,8a,hv,5x,g,s8",
+        "h7,y,ia,i7,ai,gk,gu,cl,3", "zo,g7,pq,ln,n0,a0,zg,i,r,sd", "e,fk,6,yb,cy,ft,2s,h6,x",
+        "i,e,h,o,s,7,8,6,u,z,l,k,0,n,c,p", "d,q,4,3,p,0,v,j,i,7,n,m,9,o,s,g", "n,8,7,i,4,z,p,e,o,b,g,j,l,w,9,0",
+        "k,6,w,5,a,l,g,s,m,t,j,7,1,b,8,i", "a,t7,5,n9,kx,r2,y,81,p,b4,6,fz",
+        "aaaaaaaa,baaaaaaa,abaaaaaa,aabaaaaa,aaabaaaa,aaaabaaa,aaaaabaa,aaaaaaba,aaaaaaab"};
 
     private final Check check;
     private final StringBuilder told = new StringBuilder();
@@ -56,17 +59,29 @@ public final class ModelTest {
     private void go() {
         int goal = 1 + below(20);
         if (run % 5 == 0) {
-            for (String key : WITHOUT_TABLE[run / 5 % WITHOUT_TABLE.length].split(",")) {
+            goal = 20;
+            for (String key : STARTS[run / 5 % STARTS.length].split(",")) {
                 type(key);
                 call(2, below(10), 0);
             }
         }
-        while (calls < CALLS && !check.hasFailed()) {
-            if (model.count() < goal && !sometimes(4)) {
+        int end = run % 3 == 0 ? 100 : CALLS - 260;
+        while (calls < end && !check.hasFailed()) {
+            if (model.count() < goal && run % 5 != 0 && !sometimes(4)) {
                 addKey();
             } else {
                 step();
             }
+        }
+        for (int strategy = run % 4; strategy < 8; strategy++) {
+            list(strategy % 4);
+        }
+    }
+
+    private void list(int strategy) {
+        call(27, strategy, -1);
+        for (int index = 0; index <= 600 && calls < CALLS && index <= model.listingLength(strategy); index++) {
+            call(27, strategy, index);
         }
     }
 
@@ -223,22 +238,26 @@ public final class ModelTest {
 
     private void search() {
         int strategy = below(4);
-        for (int op = 13; op <= 18; op++) {
-            call(op, strategy, 0);
+        for (int i = 0, first = below(6); i < 6; i++) {
+            call(13 + (first + i) % 6, strategy, 0);
         }
         call(22, below(100) - 50, 0);
     }
 
     private void query() {
-        call(9, key(), below(5));
-        call(11, key(), key());
-        call(19, 0, 0);
-        call(20, below(4), 0);
-        call(21, 0, 0);
-        call(23, below(5), 0);
-        call(24, below(24), 0);
-        call(25, below(8), 0);
-        call(26, 0, 0);
+        for (int i = 0, first = below(9); i < 9; i++) {
+            switch ((first + i) % 9) {
+                case 0 -> call(9, key(), below(5));
+                case 1 -> call(11, key(), key());
+                case 2 -> call(19, 0, 0);
+                case 3 -> call(20, below(4), 0);
+                case 4 -> call(21, 0, 0);
+                case 5 -> call(23, below(5), 0);
+                case 6 -> call(24, below(24), 0);
+                case 7 -> call(25, below(8), 0);
+                default -> call(26, 0, 0);
+            }
+        }
     }
 
     private void call(int op, int one, int other) {

@@ -46,7 +46,10 @@ public final class PromiseTest {
         save();
         restore();
         withoutTable();
+        atTheEdges();
+        slotsAreRoundedUp();
         strategiesFollowChanges();
+        eachCallFollowsChanges();
         CHECK.close();
     }
 
@@ -852,6 +855,77 @@ public final class PromiseTest {
             x.setLoad(70);
             x.remove(3);
         }
+    }
+
+    /** The last seed, displacements and depths that the document still allows, and the first ones beyond. */
+    private static void atTheEdges() {
+        checkListing("29: seed 297", with("k,6,w,5,a,l,g,s,m,t,j,7,1,b,8,i"), 3,
+            "297/0/0,7,1,0,14,1/8,b,5,t,m,1,s,7,g,i,j,k,w,l,a,6");
+        CHECK.state("25: seed 300 is not tried",
+            () -> with("k,3,7k,z,g,y,8,s,t,l0,z3,df,9n,2s,rp,a0").table(2));
+        checkListing("29: seed 261", with("d,q,4,3,p,0,v,j,i,7,n,m,9,o,s,g"), 3,
+            "261/0/0,0,1,8,4,2/g,d,m,j,p,n,4,9,s,7,3,o,q,i,v,0");
+        checkListing("29: displacement 99", with("a,t7,5,n9,kx,r2,y,81,p,b4,6,fz"), 3,
+            "0/0/7,1,99,0/p,y,b4,r2,kx,81,5,t7,fz,n9,6,a");
+        checkListing("29: displacement 100 is not tried", with("zo,ee,f,dz,vp,as,dl,dr,w,x,c,0"), 3,
+            "9/01/4,18,1,0/w,dl,dr,vp,dz,c,as,ee,zo,0,f,x");
+        TextSwitchCompiler deep =
+            with("aaaaaaaa,baaaaaaa,abaaaaaa,aabaaaaa,aaabaaaa,aaaabaaa,aaaaabaa,aaaaaaba,aaaaaaab");
+        checkTrees(deep, 1, 8, 9, 8);
+        checkListing("29: eight nodes on a way", deep, 2, "8:0{a:1{a:2{a:3{a:4{a:5{a:6{a:7{a:aaaaaaaa=1,b:aaaaaaab=9},"
+            + "b:aaaaaaba=8},b:aaaaabaa=7},b:aaaabaaa=6},b:aaabaaaa=5},b:aabaaaaa=4},b:abaaaaaa=3},b:baaaaaaa=2}");
+        runs(deep, "aaaaaaaa", 0, 8, 21, 8, 16);
+        runs(deep, "aaaaaaac", -1, 44, 20, 8);
+        runs(deep, "aaaaaaab", 8, 44, 13, 8, 16);
+    }
+
+    private static void tableSlots(String keys, int load, int slots) {
+        TextSwitchCompiler x = with(keys);
+        x.setLoad(load);
+        CHECK.answers("25: slots of " + keys + " at load " + load, slots, () -> x.table(0));
+    }
+
+    private static void slotsAreRoundedUp() {
+        tableSlots("a", 100, 1);
+        tableSlots("a", 99, 2);
+        tableSlots("a", 50, 2);
+        tableSlots("a,b", 67, 3);
+        tableSlots("a,b,c", 75, 4);
+        tableSlots("a,b,c", 74, 5);
+        checkListing("29: load 99", loaded("a", 99), 3, "0//0/a,-");
+        checkListing("29: load 67", loaded("a,b", 67), 3, "0/0/0/b,a,-");
+        checkListing("29: load 75", loaded("a,b,c", 75), 3, "48/0/1/a,-,c,b");
+    }
+
+    private static TextSwitchCompiler loaded(String keys, int load) {
+        TextSwitchCompiler x = with(keys);
+        x.setLoad(load);
+        return x;
+    }
+
+    /** Each call by itself must see the keys as they are now, not only after another call has. */
+    private static void eachCallFollowsChanges() {
+        CHECK.answers("15: find at once", 1, () -> typed("cow,cat,a", "cat").find(2));
+        CHECK.answers("16: branch at once", 2, () -> typed("cow,cat,a", "cat").branch(1));
+        CHECK.answers("17: examined at once", 4, () -> typed("cow,cat,a", "cat").examined(3));
+        CHECK.answers("18: cost at once", 7, () -> with("cow,cat,a").cost(2));
+        CHECK.answers("19: worst at once", 4, () -> with("cow,cat,a").worst(3));
+        CHECK.answers("20: meanBits at once", Double.doubleToLongBits(7.0 / 3.0), () -> with("cow,cat,a").meanBits(2));
+        CHECK.answers("21: best at once", 2, () -> with("cow,cat,a").best());
+        CHECK.answers("22: trees at once", 3, () -> with("cow,cat,a").trees(2));
+        CHECK.answers("23: selected at once", 2, () -> with("cow,cat,a").selected());
+        CHECK.answers("24: hash at once", 317173259, () -> typed("cat,dog,cow,a", "cat").hash(0));
+        CHECK.answers("25: table at once", 4, () -> fourKeys().table(0));
+        CHECK.answers("26: slot at once", 2, () -> fourKeys().slot(1));
+        CHECK.answers("27: displacement at once", 1, () -> fourKeys().displacement(0));
+        CHECK.answers("28: densityBits at once", 0x3F800000, () -> fourKeys().densityBits());
+        CHECK.answers("29: listing at once", 'c', () -> with("cow,cat,a").listing(1, 4));
+    }
+
+    private static TextSwitchCompiler typed(String keys, String text) {
+        TextSwitchCompiler x = with(keys);
+        type(x, text);
+        return x;
     }
 
     private static void withoutTable() {
