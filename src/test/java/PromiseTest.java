@@ -491,6 +491,10 @@ public final class PromiseTest {
             CHECK.answers("11: less than " + k, less[k], () -> x.property(k, 3));
             CHECK.answers("11: neighbors of " + k, near[k], () -> x.property(k, 4));
         }
+        TextSwitchCompiler letters = with("a,b");
+        CHECK.answers("11: a neighbor", 1, () -> letters.property(0, 4));
+        letters.remove(1);
+        CHECK.answers("11: a removed neighbor", 0, () -> letters.property(0, 4));
         CHECK.argument("11: what -1", () -> x.property(0, -1));
         CHECK.argument("11: what 5", () -> x.property(0, 5));
         CHECK.index("11: key -1", () -> x.property(-1, 0));
