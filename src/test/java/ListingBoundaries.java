@@ -56,8 +56,7 @@ final class ListingBoundaries {
             "list 2 = 8:0{a:1{a:2{a:3{a:4{a:5{a:6{a:7{a:aaaaaaaa=0,b:aaaaaaab=8},b:aaaaaaba=7},b:aaaaabaa=6},"
                 + "b:aaaabaaa=5},b:aaabaaaa=4},b:aabaaaaa=3},b:abaaaaaa=2},b:baaaaaaa=1}");
         // Nineteen nodes: no listing is longer.
-        s.test(node, "keys aaaaaaaa aaaabbab aaabbaba aabaabbb aabbabaa abaaaaab abaabbba ababbabb abbabaaa abbbabab "
-            + "baaaaaba baaabbbb baabbbaa bababaab babbabba bbaaaabb bbabaaaa bbabbbab bbbababa bbbbabbb",
+        s.test(node, Sentences.NINETEEN_NODES,
             "trees(1) = 19", "trees(2) = 20", "list 2 = 8:0{a:1{a:2{a:3{a:4{a:aaaaaaaa=0,b:aaaabbab=1},b:aaabbaba=2},"
                 + "b:3{a:aabaabbb=3,b:aabbabaa=4}},b:2{a:3{a:4{a:abaaaaab=5,b:abaabbba=6},b:ababbabb=7},"
                 + "b:3{a:abbabaaa=8,b:abbbabab=9}}},b:1{a:2{a:3{a:4{a:baaaaaba=0,b:baaabbbb=1},b:baabbbaa=2},"
@@ -167,6 +166,8 @@ final class ListingBoundaries {
             "list 0 = a=0", "property(0, 1) = 1", "size(1) = 100");
         s.test(quote, "keys a b", "save() = 2", "type b", "find(2) = 1", "remove(0) = 1", "restore() = 2",
             "find(2) = 1", "find(1) = 1", "find(3) = 1");
+        s.test(quote, "keys a b", "save() = 2", "remove(0) = 1", "type b", "find(2) = 0", "clear() = 1", "type c",
+            "add(0) = 1", "restore() = 2", "type b", "find(2) = 1", "find(1) = 1", "find(3) = 1");
         s.test("Returns the number of keys.", "save() = 0", "keys a b", "restore() = 0", "keys a b c", "save() = 3",
             "remove(0) = 2", "restore() = 3");
         s.test("Returns the number of keys.", Sentences.TWENTY_KEYS, "save() = 20", "remove(0) = 19", "restore() = 20");

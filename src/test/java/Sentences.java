@@ -25,6 +25,9 @@ final class Sentences {
     static final String LONGEST_KEYS = "keys abcdefga abcdefgb abcdefgc abcdefgd abcdefge abcdefgf abcdefgg "
         + "abcdefgh abcdefgi abcdefgj abcdefgk abcdefgl abcdefgm abcdefgn abcdefgo abcdefgp abcdefgq abcdefgr abcdefgs "
         + "abcdefgt";
+    /** Twenty keys in the tree with the most nodes: each has two children. */
+    static final String NINETEEN_NODES = "keys aaaaaaaa aaaabbab aaabbaba aabaabbb aabbabaa abaaaaab abaabbba ababbabb "
+        + "abbabaaa abbbabab baaaaaba baaabbbb baabbbaa bababaab babbabba bbaaaabb bbabaaaa bbabbbab bbbababa bbbbabbb";
 
     private static final Path DOCUMENT = Path.of("../shared/DOC.md");
 

@@ -92,6 +92,8 @@ final class StrategyBoundaries {
     private void binary() {
         s.test("The n keys are ordered as texts.", "keys d b c a", "type b", "find(1) = 1", "examined(1) = 1",
             "clear() = 1", "type a", "find(1) = 3", "examined(1) = 2", "list 1 = a=3,b=1,c=2,d=0");
+        s.test("The n keys are ordered as texts.", "keys c b a", "list 1 = a=2,b=1,c=0", "remove(1) = 2",
+            "list 1 = a=2,c=0", "remove(0) = 1", "list 1 = a=2", "type a", "find(1) = 0");
         String ends = "At first low is 0 and high is n - 1.";
         int[] steps = {2, 1, 2, 3};
         for (int key = 0; key < 4; key++) {
@@ -162,6 +164,7 @@ final class StrategyBoundaries {
         s.test(most, "keys aax aay bbx bcz", "list 2 = 3:1{a:2{x:aax=0,y:aay=1},b:bbx=2,c:bcz=3}");
         String lowest = "of several still, the lowest one";
         s.test(lowest, "keys ab ba", "list 2 = 2:0{a:ab=0,b:ba=1}");
+        s.test(lowest, "keys ab ba axz", "list 2 = 2:0{a:ab=0,b:ba=1};3:axz=2");
         s.test(lowest, "keys xab xba", "list 2 = 3:1{a:xab=0,b:xba=1}");
         s.test(lowest, "keys aab abb bac", "list 2 = 3:0{a:1{a:aab=0,b:abb=1},b:bac=2}");
     }

@@ -103,6 +103,10 @@ final class TableBoundaries {
         s.test(buckets, "keys a b c", "table(1) = 1", "displacement(1)" + INDEX);
         s.test(buckets, "keys a b c d", "table(1) = 2", "displacement(1) = 3", "displacement(2)" + INDEX);
         s.test(buckets, Sentences.TWENTY_KEYS, "table(1) = 7", "displacement(6) = 0", "displacement(7)" + INDEX);
+        s.test(buckets, Sentences.NINETEEN_NODES, "table(1) = 7", "displacement(6) = 1", "displacement(7)" + INDEX,
+            "list 3 = 12/01234/5,0,2,11,15,19,1/aaaaaaaa,baaabbbb,abbbabab,bbaaaabb,abaaaaab,babbabba,aabaabbb,"
+                + "bbbababa,aaaabbab,aabbabaa,abaabbba,bbbbabbb,baabbbaa,abbabaaa,aaabbaba,ababbabb,baaaaaba,"
+                + "bbabbbab,bababaab,bbabaaaa");
     }
 
     private void places() {
