@@ -983,11 +983,12 @@ public final class TextSwitchCompiler {
             int position = choosePosition(tree);
             put(positions, tree, position);
             put(firstChildren, tree, treeCount);
-            sortMembers(at(starts, tree), at(ends, tree), position);
             int start = at(starts, tree);
-            for (int i = start; i < at(ends, tree); i++) {
+            int end = at(ends, tree);
+            sortMembers(start, end, position);
+            for (int i = start; i < end; i++) {
                 int label = keys.letterAt(at(members, i), position);
-                boolean last = i + 1 >= at(ends, tree) || keys.letterAt(at(members, i + 1), position) != label;
+                boolean last = i + 1 >= end || keys.letterAt(at(members, i + 1), position) != label;
                 if (last) {
                     plant(start, i + 1, label, at(depths, tree) + 1);
                     start = i + 1;

@@ -7,6 +7,8 @@ final class TableBoundaries {
     /** Keys that differ from the first one at one position each, so that all eight are selected. */
     private static final String EIGHT_POSITIONS =
         "keys aaaaaaaa baaaaaaa abaaaaaa aabaaaaa aaabaaaa aaaabaaa aaaaabaa aaaaaaba aaaaaaab";
+    /** Keys without a table at the load 100 alone: all their hashes are different, but each seed fails. */
+    private static final String SEEDS_FAIL = "keys 0 9 7 d 4 i r 2";
 
     private final Sentences s;
 
@@ -23,6 +25,7 @@ final class TableBoundaries {
         all.places();
         all.displacements();
         all.seeds();
+        all.tablesThatComeAndGo();
         all.runs();
         all.withoutKeysOrTable();
         all.trees();
@@ -165,6 +168,35 @@ final class TableBoundaries {
         s.test("If all fail, or if there are no keys, there is no table.", "table(0)" + STATE, "table(1)" + STATE,
             "slot(0)" + STATE, "displacement(0)" + STATE, "densityBits()" + STATE, "listing(3, -1)" + STATE, "keys a",
             "table(0) = 1", "remove(0) = 0", "table(0)" + STATE);
+    }
+
+    /** Each call that needs the table is the first one to ask for it after it came or went. */
+    private void tablesThatComeAndGo() {
+        String quote = "If all fail, or if there are no keys, there is no table.";
+        String[] calls = {"find(3)", "branch(3)", "examined(3)", "cost(3)", "worst(3)", "meanBits(3)", "table(3)",
+            "slot(0)", "displacement(0)", "densityBits()", "listing(3, 0)"};
+        String[] due = {"2", "2", "2", "16", "2", "double 16/8", "15", "2", "13", "float 8/9", "'0'"};
+        for (int i = 0; i < calls.length; i++) {
+            String answered = calls[i] + " = " + due[i];
+            String refused = calls[i] + STATE;
+            s.test(quote, SEEDS_FAIL, "setLoad(99) = 100", "type 7", answered, "setLoad(100) = 99", refused,
+                "setLoad(90) = 100", answered);
+            s.test(quote, SEEDS_FAIL, "type 7", refused, "clear() = 1", "type load=90", "execute() = 1", "type 7",
+                answered, "clear() = 1", "type load=100", "execute() = 1", refused);
+            s.test(quote, SEEDS_FAIL, "setLoad(90) = 100", "type 7", "save() = 8", "setLoad(100) = 90", refused,
+                "restore() = 8", answered, "setLoad(100) = 90", "save() = 8", "setLoad(90) = 100", answered,
+                "restore() = 8", refused);
+            s.test(quote, "keys 0 9 7 d 4 i r", "table(0) = 7", "type 2", "add(7) = 7", "type 7", refused,
+                "remove(7) = 7", "setLoad(90) = 100", "clear() = 1", "type add:2=7", "execute() = 1", "type 7",
+                answered);
+        }
+        s.test(quote, SEEDS_FAIL, "selected() = 1", "best() = 2", "cost(0) = 36", "cost(1) = 21", "cost(2) = 8",
+            "list 2 = 1:0{0:0=0,2:2=7,4:4=4,7:7=2,9:9=1,d:d=3,i:i=5,r:r=6}", "setLoad(99) = 100",
+            "list 3 = 0/0/13,1,15/7,2,d,9,4,r,i,0,-", "setLoad(50) = 99",
+            "list 3 = 0/0/3,0,3/i,2,7,-,-,-,-,9,-,-,r,d,-,0,4,-");
+        // The hashes of these two are equal for every seed, so no load helps.
+        s.test(quote, "keys 44 2r 24", "find(3)" + STATE, "setLoad(50) = 100", "find(3)" + STATE, "table(0)" + STATE,
+            "remove(0) = 2", "type 2r", "find(3) = 0");
     }
 
     private void runs() {
